@@ -120,6 +120,12 @@ final class NetsTest {
         KIT.due("eddy(4, true)", Kit.sea(ROUND + shore).eddy(4, true), -5);
         KIT.due("eddy(0, false)", Kit.sea(ROUND + "wind : 1;").eddy(0, false), -1);
         KIT.due("eddy(1, false)", Kit.sea(ROUND + "wind : 1;").eddy(1, false), 1);
+        // A round of 8 by a moon of 25: 200 tides; by one of 26 it were 104, by one of 27, 216.
+        String eight = "sea 3 3 tides 1;current 0 0 2;current 1 0 2;current 2 0 3;current 2 1 3;current 2 2 4;"
+            + "current 1 2 4;current 0 2 1;current 0 1 1;moon ";
+        KIT.due("eddy(0, true)", Kit.sea(eight + "25 springs 0;").eddy(0, true), 200);
+        KIT.due("eddy(0, true)", Kit.sea(eight + "26 springs 0;").eddy(0, true), 104);
+        KIT.due("eddy(0, true)", Kit.sea(eight + "27 springs 0;").eddy(0, true), -1);
         // 174 tides for phase and moon; with a round of 4 it were 348.
         String slow = "sea 3 3 tides 6;moon 29 springs 0;";
         KIT.due("eddy(0, true)", Kit.sea(slow).eddy(0, true), 174);

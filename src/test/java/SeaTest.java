@@ -154,6 +154,8 @@ final class SeaTest {
 
     private static void seaLine() {
         fault("rock 0 0;", 2, 0);
+        fault(";", 2, 0);
+        fault(";rock 0 0;", 2, 0);
         fault("seas 2 2 tides 1;", 2, 0);
         fault("sea 2 tides 1;", 2, 6);
         fault("sea 2 2 tide 1;", 2, 8);
@@ -174,6 +176,9 @@ final class SeaTest {
 
     private static void rockAndShoreLines() {
         fault(TWO + "rock 2 0;", 3, 21);
+        fault(TWO + "rockz 0 0;", 2, 16);
+        fault(TWO + "zrock 0 0;", 2, 16);
+        fault(TWO + "roc 0 0;", 2, 16);
         fault(TWO + "rock 0 2;", 3, 23);
         fault(TWO + "rock 0 0 0;", 2, 25);
         fault(TWO + "rock 0;", 2, 22);
@@ -341,5 +346,14 @@ final class SeaTest {
         KIT.due("wind(3, 5)", x.wind(3, 5), 4);
         x = Kit.sea(TWO + "wind : 1 + 2 * 3;rock 0 0;");
         KIT.due("wind(0, 0)", x.wind(0, 0), 2);
+        // Sea upon sea in one object, each with a long law.
+        StringBuilder sum = new StringBuilder("0");
+        for (int i = 1; i <= 100; i++) {
+            sum.append("+1");
+            if (i % 10 == 0) {
+                KIT.due("sea " + i, Kit.told(x, TWO + "wind:" + sum + "+" + i / 10 + ";"), 2);
+                KIT.due("wind(0, 0) of " + i, x.wind(0, 0), i / 10 % 5);
+            }
+        }
     }
 }

@@ -21,6 +21,7 @@ final class ToComeTest {
         reaching();
         bestThrows();
         bestOfLike();
+        longestWait();
         reachersOf();
         relays();
         keepersOfAll();
@@ -123,6 +124,18 @@ final class ToComeTest {
         KIT.due("comesTo(1, 1)", x.comesTo(1, 1), -2);
         x.lift(0);
         KIT.due("comesTo(0, 1)", x.comesTo(0, 1), -1);
+        // Phase 0 and moon 0 come together every 174 tides, and carry it two cells; then it goes on by sixes.
+        x = Kit.sea("sea 6 2 tides 6;shore 0 0 throws east walks 0;moon 29 springs 1;current 1 0 2 0 0 0 0 0;"
+            + "current 2 0 2 4 0 0 0 0;current 3 0 2 0 0 0 0 0;current 4 0 2 0 0 0 0 0;current 5 0 3 0 0 0 0 0;"
+            + "current 5 1 4 0 0 0 0 0;current 4 1 0 0 4 0 0 0;current 3 1 0 0 0 4 0 0;");
+        x.tides(1);
+        x.throwsIt(0, -1, true);
+        KIT.due("comesTo(0, 3)", x.comesTo(0, 3), 174);
+        KIT.due("comesTo(0, 10)", x.comesTo(0, 10), 198);
+        KIT.due("comesTo(0, 9)", x.comesTo(0, 9), 200);
+        KIT.due("comesTo(0, 8)", x.comesTo(0, 8), -1);
+        KIT.due("whereIn(0, 199)", x.whereIn(0, 199), 10);
+        KIT.due("whereIn(0, 200)", x.whereIn(0, 200), 9);
         // To a shore where it is found at once it never comes: it doesn't lie there at the tide's end.
         x = Kit.sea(LANE);
         x.throwsIt(0, 1, true);
@@ -213,6 +226,20 @@ final class ToComeTest {
         best(Kit.sea(sea + "3;rock 1 1;wind : 3;"), 0, 1, 5, 2, 1);
     }
 
+    private static void longestWait() {
+        // Phase 0 and moon 0 come together every 174 tides; the cork leaves no other way than to wait for them.
+        BottlePost x = Kit.sea("sea 4 2 tides 6;shore 0 0 throws east walks 0;shore 3 0 throws west walks 0;"
+            + "current 1 0 2 0 0 0 0 0;current 2 0 2 0 0 0 0 0;moon 29 springs 1;cork 1;");
+        best(x, 0, 1, 1, 0, 0);
+        x.tides(99);
+        x.tides(44);
+        best(x, 0, 1, -1, -1, -1);
+        KIT.due("reachers(1)", x.reachers(1), 0);
+        x.tides(1);
+        best(x, 0, 1, 31, 30, 0);
+        KIT.due("reachers(1)", x.reachers(1), 1);
+    }
+
     private static void reachersOf() {
         BottlePost x = Kit.sea(LANE + "shore 0 1 throws east walks 0;");
         KIT.due("reachers(1)", x.reachers(1), 1);
@@ -259,6 +286,9 @@ final class ToComeTest {
         relay(x, 0, 1, 3, 2, 0, 2, 1);
         x.tides(1);
         relay(x, 0, 1, 6, 2, 0, 2, 1);
+        // As soon by a friend who comes ahead of the goal by number: still the fewest letters.
+        relay(Kit.sea("sea 5 2 tides 1;shore 0 0 throws east walks 0;shore 2 0 throws east walks 0;"
+            + "shore 4 0 throws west walks 0;current 1 0 2;current 3 0 2;"), 0, 2, 2, 1, 0, 2);
         // Two friends alike, one by the wind of phase 0, one by that of phase 1: the first by number.
         String rows = "shore 4 2 throws west walks 5;rock 3 0;rock 3 2;current 2 1 2 2 2 2 2 2;current 3 1 2 2 2 2 2 2;"
             + "current 4 1 3 3 3 3 3 3;current 2 3 2 2 2 2 2 2;current 3 3 2 2 2 2 2 2;current 4 3 1 1 1 1 1 1;"
@@ -290,6 +320,10 @@ final class ToComeTest {
         KIT.due("without(0, 1, 2)", x.without(0, 1, 2), 4);
         KIT.due("best(0, 1, 0) still", x.best(0, 1, 0), 2);
         KIT.due("without(2, 1, 0)", x.without(2, 1, 0), 0);
+        BottlePost y = Kit.sea(AROUND + "shore 0 1 throws west walks 0;");
+        KIT.due("without(0, 1, 3)", y.without(0, 1, 3), 0);
+        KIT.due("without(0, 1, 2)", y.without(0, 1, 2), 4);
+        KIT.due("without(0, 1, 3)", y.without(0, 1, 3), 0);
         KIT.due("without(1, 0, 2)", x.without(1, 0, 2), -1);
         KIT.due("without(0, 1, 0)", x.without(0, 1, 0), -2);
         KIT.due("without(0, 1, 1)", x.without(0, 1, 1), -2);
