@@ -159,7 +159,7 @@ final class ModelTest {
         for (int[] r : Kit.twenties(text)) {
             kit.due(run + "feed", x.feed(r[0], r[1], r[2], r[3], r[4]), m.feed(r[0], r[1], r[2], r[3], r[4]));
         }
-        int n = chance(30) ? length + upTo(20) : length;
+        int n = chance(30) ? length + upTo(20) : chance(15) ? upTo(length) : length;
         int lines = m.sea(n);
         kit.due(run + "sea(" + n + ") of " + new String(text), x.sea(n), lines);
         kit.due(run + "fault(0)", x.fault(0), m.fault(0));

@@ -83,7 +83,24 @@ final class SeaTest {
         KIT.due("count(11)", x.count(11), 0);
     }
 
+    /** Bytes behind the first n are none of the text's, though they be of the same word. */
+    private static void cutOff(String tape, int n, int kind, int place) {
+        BottlePost x = new BottlePost();
+        for (int[] r : Kit.twenties(Kit.bytes(tape))) {
+            x.feed(r[0], r[1], r[2], r[3], r[4]);
+        }
+        KIT.due("sea(" + n + ") of " + tape, x.sea(n), kind == 0 ? 1 : -30 - kind);
+        KIT.due("fault(1)", x.fault(1), place);
+    }
+
     private static void reading() {
+        cutOff(TWO + "rock 0 0;", 16, 0, -1);
+        cutOff(TWO + "rock 0 0;", 19, 2, 16);
+        cutOff(TWO + "rock 0 0;", 20, 2, 20);
+        cutOff(TWO + "cork 12;", 22, 2, 22);
+        cutOff(TWO + "cork 1234;", 24, 3, 21);
+        cutOff(TWO + "cork 1234;", 25, 1, 21);
+
         BottlePost x = Kit.sea("sea 3 2 tides 4;shore 0 0 throws east walks 1;rock 2 0;rock 2 1;");
         KIT.due("count(0)", x.count(0), 3);
         KIT.due("count(1)", x.count(1), 2);
