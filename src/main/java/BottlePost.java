@@ -1312,6 +1312,10 @@ public final class BottlePost {
                 return;
             }
             go(b, tide);
+            // One that broke in this tide neither is at sea any more nor lies: it grows no older.
+            if (b.state == BROKEN) {
+                return;
+            }
             b.age++;
             if (b.state == AT_SEA && chart.cork > 0 && b.age >= chart.cork) {
                 b.state = SUNK;

@@ -10,6 +10,7 @@ final class DeedsTest {
         throwing();
         drifting();
         springs();
+        ages();
         winds();
         corks();
         finding();
@@ -79,11 +80,11 @@ final class DeedsTest {
         KIT.due("count(7)", x.count(7), 99);
         KIT.due("count(8)", x.count(8), 1);
         KIT.due("count(9)", x.count(9), 0);
-        // Onto a rock: there it is broken, and its last tide counts.
+        // Onto a rock: there it is broken.
         x.throwsIt(0, 1, true);
         x.storm(1, 6);
         x.tides(3);
-        bottle(x, 0, 3, 7, 0, 1, 1, 1, 0, -1);
+        bottle(x, 0, 3, 7, 0, 1, 1, 0, 0, -1);
         KIT.due("count(5)", x.count(5), 0);
         // Over the edge it doesn't go.
         x = Kit.sea("sea 2 2 tides 4;shore 0 0 throws east walks 0;current 1 0 1 2 1 2;");
@@ -122,7 +123,59 @@ final class DeedsTest {
             + "moon 2 springs 1;wind : 2;");
         x.throwsIt(0, -1, false);
         x.tides(1);
-        bottle(x, 0, 3, 4, 0, -1, 0, 1);
+        bottle(x, 0, 3, 4, 0, -1, 0, 0);
+    }
+
+    /** The tide in which a bottle breaks is none of its age; those in which it lies, is found, sinks are. */
+    private static void ages() {
+        String lane = "sea 5 2 tides 1;shore 0 0 throws east walks 0;rock 4 0;current 1 0 2;current 2 0 2;";
+        // By the current, in the third tide; it stays so.
+        BottlePost x = Kit.sea(lane + "current 3 0 2;");
+        x.throwsIt(0, -1, true);
+        int[] ages = {1, 2, 2, 2};
+        for (int age : ages) {
+            x.tides(1);
+            KIT.due("bottle(0, 5)", x.bottle(0, 5), age);
+        }
+        bottle(x, 0, 3, 4, 0, -1, 1, 2, 0, -1);
+        x.undo(2);
+        KIT.due("bottle(0, 5) undone", x.bottle(0, 5), 2);
+        KIT.due("bottle(0, 0) undone", x.bottle(0, 0), 0);
+        // By the wind, and by the second step at springs.
+        x = Kit.sea(lane + "wind : 2 * x - 4;");
+        x.throwsIt(0, -1, false);
+        x.tides(9);
+        KIT.due("bottle(0, 0) in the wind", x.bottle(0, 0), 3);
+        KIT.due("bottle(0, 5) in the wind", x.bottle(0, 5), 1);
+        x = Kit.sea(lane + "current 3 0 2;moon 2 springs 2;");
+        x.throwsIt(0, -1, true);
+        x.tides(2);
+        bottle(x, 0, 3, 4, 0, -1, 1, 1);
+        // A cork that gives way in the tide of breaking: it breaks.
+        x = Kit.sea(lane + "current 3 0 2;cork 3;");
+        x.throwsIt(0, -1, true);
+        x.tides(3);
+        bottle(x, 0, 3, 4, 0, -1, 1, 2);
+        x = Kit.sea(lane + "current 3 0 2;cork 2;");
+        x.throwsIt(0, -1, true);
+        x.tides(3);
+        bottle(x, 0, 4, 3, 0, -1, 1, 2);
+        // One that lies grows older till it is found, and in that tide too.
+        x = Kit.sea("sea 3 2 tides 3;shore 0 0 throws east walks 0;shore 2 0 throws south walks 2;current 1 0 2 0 0;");
+        x.throwsIt(0, 1, true);
+        int[] lying = {1, 2, 3, 3};
+        for (int age : lying) {
+            x.tides(1);
+            KIT.due("bottle(0, 5) lying", x.bottle(0, 5), age);
+        }
+        KIT.due("bottle(0, 0) lay", x.bottle(0, 0), 2);
+        // One that is lifted is as old as it was.
+        x = Kit.sea(lane);
+        x.throwsIt(0, -1, true);
+        x.tides(2);
+        x.lift(0);
+        x.tides(2);
+        KIT.due("bottle(0, 5) lifted", x.bottle(0, 5), 2);
     }
 
     private static void winds() {

@@ -419,6 +419,9 @@ final class Model {
             return b;
         }
         b = drifted(b, tide);
+        if (!b.afloat()) {
+            return b;
+        }
         b = new Bottle(b.state(), b.cell(), b.from(), b.to(), b.heavy(), b.age() + 1, b.passed(), b.keeper());
         if (b.state() == State.SEA && sea.cork > 0 && b.age() >= sea.cork) {
             return b.is(State.SUNK);
