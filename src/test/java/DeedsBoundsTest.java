@@ -24,6 +24,7 @@ final class DeedsBoundsTest {
         eightAtMost();
         agesAndPasses();
         tidePhaseMoon();
+        lastOf512Calls();
         springsAgain();
         edges();
         noFurther();
@@ -41,6 +42,8 @@ final class DeedsBoundsTest {
         stormsRefused();
         lifting();
         undoneAsAWhole();
+        undoneByOneDeed();
+        undoneIsGone();
         tenAtMost();
         undoRefused();
         deeds();
@@ -139,6 +142,26 @@ final class DeedsBoundsTest {
             x.tides(1);
             KIT.due("bottle(0, 1)", x.bottle(0, 1), k);
         }
+    }
+
+    private static void lastOf512Calls() {
+        KIT.says(0, "An object is used for at most 512 calls after it has been made");
+        String sea = PAIR + "moon 7 springs 0;wind : 3;";
+        BottlePost x = Kit.sea(sea);
+        int calls = Kit.twenties(Kit.bytes(sea)).length + 1;
+        KIT.due("throwsIt", x.throwsIt(0, -1, false), 0);
+        KIT.due("storm(1, 4)", x.storm(1, 4), 1);
+        calls += 2;
+        int tide = 0;
+        for (; calls < 507; calls++) {
+            KIT.due("tides(99)", x.tides(99), 0);
+            tide += 99;
+        }
+        KIT.due("the 508th", x.count(7), tide);
+        KIT.due("the 509th", x.count(8), tide % 2);
+        KIT.due("the 510th", x.count(9), tide % 7);
+        KIT.due("the 511th", x.bottle(0, 5), tide);
+        KIT.due("the 512th", x.undo(10), 0);
     }
 
     private static void springsAgain() {
@@ -337,6 +360,15 @@ final class DeedsBoundsTest {
         holds("tide = 0", true);
         holds("1 < 1 or 1 > 1", false);
         holds("not 1 = 1 or not 1 < 2 or not 2 > 1", false);
+        holds("not 1 = 2 and not 1 < 1 and not 1 > 1", true);
+        holds("1 = 2 or 1 = 1", true);
+        holds("1 = 1 or 1 = 2", true);
+        holds("1 = 2 or 2 = 1", false);
+        holds("1 = 2 and 1 = 1", false);
+        holds("1 = 1 and 1 = 2", false);
+        holds("1 = 1 and 2 = 2", true);
+        holds("1 = 1 or 1 = 1 and 1 = 2", true);
+        holds("[1 = 1 or 1 = 1] and 1 = 2", false);
         // The highest numbers of shores, a light one, the highest phase, a bottle that was passed on.
         String sea = "sea 6 2 tides 6;shore 0 0 throws south walks 0;shore 0 1 throws north walks 0;"
             + "shore 2 1 throws north walks 0;shore 4 1 throws west walks 0;shore 2 0 throws east walks 0 5;"
@@ -526,6 +558,69 @@ final class DeedsBoundsTest {
         KIT.due("count(4)", x.count(4), 0);
     }
 
+    private static void undoneByOneDeed() {
+        KIT.says(0, "Calls that did some");
+        BottlePost x = Kit.sea(PAIR);
+        Kit.tray(x, 0, 1, 11, 300);
+        KIT.due("one deed done", x.perform(0), 1);
+        KIT.due("count(10)", x.count(10), 1);
+        KIT.due("a season of one tide", x.season(seedOf(1), 1), 1);
+        KIT.due("count(7)", x.count(7), 1);
+        KIT.due("count(10)", x.count(10), 2);
+        KIT.due("undo(2)", x.undo(2), 0);
+        KIT.due("count(4)", x.count(4), 0);
+        // A season in which nothing could be: a bottle that isn't there was to be lifted.
+        KIT.due("a season of none", x.season(seedOf(3), 1), 0);
+        KIT.due("count(10)", x.count(10), 0);
+    }
+
+    /** The least seed whose first draw is so, modulo 4. */
+    private static int seedOf(int lot) {
+        int seed = 0;
+        while (draw(new long[] {seed}) % 4 != lot) {
+            seed++;
+        }
+        return seed;
+    }
+
+    private static void undoneIsGone() {
+        KIT.says(14, "n calls (1 to 10) are UNDONE");
+        BottlePost x = Kit.sea(PAIR + "keeps : from = 1 and passed > 1;shore 0 1 throws east walks 0;");
+        x.throwsIt(0, -1, true);
+        x.tides(1);
+        KIT.due("it lies", x.shore(1, 4), 1);
+        KIT.due("undo(2)", x.undo(2), 0);
+        KIT.due("it lies no more", x.shore(1, 4), 0);
+        x.throwsIt(0, -1, true);
+        KIT.due("undo(1)", x.undo(1), 0);
+        KIT.due("no storm meets it, at sea", x.storm(1, 4), 0);
+        KIT.due("count(10)", x.count(10), 0);
+        x.throwsIt(0, -1, true);
+        x.tides(2);
+        KIT.due("it is kept", x.shore(1, 5), 1);
+        KIT.due("undo(2)", x.undo(2), 0);
+        KIT.due("it is kept no more", x.shore(1, 5), 0);
+        KIT.due("no storm meets it", x.storm(1, 4), 0);
+        KIT.due("no net", x.catches(1, 60), 0);
+        KIT.due("all is calm", x.calm(60), 0b110010);
+        // Another has its number, and nothing else of it.
+        KIT.due("throwsIt", x.throwsIt(1, 2, false), 0);
+        bottle(x, 0, 0, 1, 1, 2, 0, 0, 0, -1);
+        KIT.due("no storm meets two", x.storm(1, 4), 1);
+        x.undo(1);
+        // All of one is brought back: where it is, from whom, to whom, how heavy, how old, how often passed on.
+        x.tides(4);
+        bottle(x, 0, 0, 1, 1, 2, 0, 4, 2, -1);
+        x.tides(2);
+        bottle(x, 0, 2, 2, 1, 2, 0, 6, 2, 1);
+        KIT.due("undo(1)", x.undo(1), 2);
+        bottle(x, 0, 0, 1, 1, 2, 0, 4, 2, -1);
+        KIT.due("its fate", x.fate(0, 1), 2);
+        KIT.due("undo(1)", x.undo(1), 1);
+        bottle(x, 0, 0, 1, 1, 2, 0, 0, 0, -1);
+        KIT.due("its fate", x.fate(0, 1), 6);
+    }
+
     private static void tenAtMost() {
         KIT.says(0, "10 at most (eldest are forgotten)");
         for (int calls = 9; calls <= 34; calls++) {
@@ -711,6 +806,7 @@ final class DeedsBoundsTest {
 
     private static void seasons() {
         KIT.says(0, "A SEASON by a SEED (x, an int; a DRAW: x becomes 1103515245 x + 12345, it is x >>> 16): so many times (1 to 40)");
+        KIT.says(0, "DRAW modulo 4: 0 and 1 a TIDE; 2 a throw from SHORE DRAW modulo SHORES to SHORE DRAW modulo SHORES (both one: to whom it may), heavy if DRAW modulo 2 is 1; 3 BOTTLE DRAW modulo 8 is LIFTED; as in a TRAY, if it can be.");
         String one = "sea 2 2 tides 1;shore 0 0 throws east walks 0;";
         String[] seas = {one, PAIR, SIX, "sea 2 2 tides 1;shore 0 0 throws north walks 0;"};
         int[] seeds = {0, 1, -1, Kit.LEAST, Kit.MOST, 0x10000, -0x10000, 12345, 7, 8, 9, 10};

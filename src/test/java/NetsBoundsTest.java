@@ -137,6 +137,17 @@ final class NetsBoundsTest {
         y.throwsIt(0, -1, false);
         KIT.due("net(59, 1)", y.net(59, 1), 2);
         KIT.due("net(60, 0)", y.net(60, 0), 6);
+        // The first cell of all.
+        BottlePost first = Kit.sea("sea 2 2 tides 1;shore 1 0 throws west walks 0;");
+        KIT.due("none to catch, 0", first.net(60, 0), 0);
+        KIT.due("none to catch on cell 0", first.catches(0, 60), 0);
+        first.throwsIt(0, -1, true);
+        KIT.due("the first, 0", first.net(60, 0), 0);
+        KIT.due("the first, 1", first.net(60, 1), 1);
+        KIT.due("catches(0, 1)", first.catches(0, 1), 1);
+        first.undo(1);
+        KIT.due("undone", first.catches(0, 1), 0);
+        KIT.due("undone, the most", first.net(60, 1), 0);
         BottlePost z = Kit.sea("sea 2 2 tides 1;rock 0 0;rock 1 0;shore 0 1 throws east walks 0;rock 1 1;");
         KIT.each("no open sea", -1, n -> z.net(n, 0), 1, 60);
         KIT.each("no open sea", -1, n -> z.net(n, 1), 1, 60);
@@ -191,6 +202,8 @@ final class NetsBoundsTest {
         KIT.due("deadly(false) by the 201st", x.deadly(false), 4);
         x.tides(1);
         KIT.due("deadly(false) by the 200th", x.deadly(false), 6);
+        KIT.due("the first cell", Kit.sea("sea 2 2 tides 1;rock 1 0;current 0 0 2;").deadly(true), 1);
+        KIT.due("the last cell", Kit.sea("sea 6 6 tides 1;rock 4 5;current 5 5 4;").deadly(true), 1L << 35);
         KIT.due("a rock itself isn't one", Kit.sea("sea 2 2 tides 1;rock 0 0;").deadly(true), 0);
     }
 
@@ -243,6 +256,19 @@ final class NetsBoundsTest {
         // It would lie, be found, and come back to the very cell in the same tide.
         KIT.due("lying", Kit.sea("sea 3 2 tides 1;shore 1 0 throws west walks 0;shore 2 1 throws west walks 0;"
             + "current 0 0 2;").eddy(0, true), -1);
+        // From phase 0 on: there at phase 0, back at phase 1.
+        BottlePost turn = Kit.sea("sea 3 2 tides 2;current 0 0 2 0;current 1 0 0 4;");
+        KIT.due("there and back", turn.eddy(0, true), 2);
+        KIT.due("back, and no more there", turn.eddy(1, true), -1);
+        turn.tides(1);
+        KIT.due("there no more", turn.eddy(0, true), -1);
+        KIT.due("back and there", turn.eddy(1, true), 2);
+        turn = Kit.sea("sea 3 2 tides 3;current 0 0 2 0 0;current 1 0 0 0 4;");
+        KIT.due("there at phase 0, back at phase 2", turn.eddy(0, true), 3);
+        KIT.due("back, and no more there", turn.eddy(1, true), -1);
+        turn.tides(2);
+        KIT.due("from phase 2, there no more", turn.eddy(0, true), -1);
+        KIT.due("from phase 2, back and there", turn.eddy(1, true), 3);
         // Back at another phase first, which doesn't count.
         BottlePost x = Kit.sea("sea 2 2 tides 3;current 0 0 2 2 0;current 1 0 4 4 0;");
         KIT.due("there after 2, at its phase after 3", x.eddy(0, true), 3);
@@ -331,6 +357,16 @@ final class NetsBoundsTest {
             KIT.due("lying there at " + tide, x.seen(0), due[tide]);
             x.tides(1);
         }
+        // Light ones drift by the wind, heavy ones don't.
+        x = Kit.sea(STILL + "wind : 2;");
+        x.tides(1);
+        Kit.tray(x, 0, 0, 2, 0);
+        KIT.due("a light one", x.seen(0), 1);
+        KIT.due("light", x.thrower(0, 0, 2), 0);
+        KIT.due("1 ago", x.thrower(0, 0, 3), 1);
+        Kit.tray(x, 0, 0, 1, 0, 1, 1);
+        KIT.due("a heavy one", x.seen(0), 1);
+        KIT.due("heavy", x.thrower(0, 0, 2), 1);
         // What is seen has nothing to do with bottles that were thrown.
         x = Kit.sea(STILL);
         Kit.tray(x, 0, 0, 1, 0);
@@ -365,7 +401,8 @@ final class NetsBoundsTest {
         KIT.each("seen of no tray", -2, x::seen, Kit.LEAST, -1, 4, Kit.MOST);
         KIT.each("seen, the tray missing", -6, x::seen, 0, 1, 2, 3);
         long[][] wrong = {{-1, 0}, {36, 0}, {99, 0}, {0, -1}, {0, 31}, {0, Long.MAX_VALUE}, {Long.MIN_VALUE, 0},
-            {1L << 32, 0}, {0, 1L << 32}, {0, 0, 0, 0, 0, 0, 36, 0}, {0, 0, 0, 0, 0, 0, 0, 31}};
+            {1L << 32, 0}, {0, 1L << 32}, {0, 0, 36, 0}, {0, 0, 0, 31}, {0, 0, 0, 0, 36, 0}, {0, 0, 0, 0, 0, 31},
+            {0, 0, 0, 0, 0, 0, 36, 0}, {0, 0, 0, 0, 0, 0, 0, 31}};
         for (long[] row : wrong) {
             Kit.tray(x, 2, 3, row);
             KIT.due("seen", x.seen(2), -3);

@@ -1,3 +1,4 @@
+import java.util.function.IntToLongFunction;
 import java.util.function.ToLongFunction;
 
 /** What the document says of all refused calls: they answer by a code, the one told first, and change nothing. */
@@ -11,6 +12,7 @@ final class RefusedTest {
     public static void main(String[] args) {
         nothingChanges(some());
         nothingChanges(full());
+        codes();
         toldFirst();
         aheadOfNone();
         KIT.end();
@@ -121,7 +123,7 @@ final class RefusedTest {
         same(x, both[1], isFull);
     }
 
-    private static void refused(String call, java.util.function.IntToLongFunction asks, int... with) {
+    private static void refused(String call, IntToLongFunction asks, int... with) {
         for (int n : with) {
             KIT.due("whether " + call + " with " + n + " is refused", asks.applyAsLong(n) < -1 ? 1 : 0, 1);
         }
@@ -172,6 +174,26 @@ final class RefusedTest {
         }
         alike(x, y, "sea of what is on the tape", z -> z.sea(z.count(11)));
         alike(x, y, "its place", z -> z.fault(1));
+    }
+
+    private static void codes() {
+        KIT.says(0, "-2 there is none such; -3 a number can't be; -4 too many; -5 it can't be now; -6 a TRAY is MISSING; -7 it has no such number; -11 to -13 why not (1 to 3); -30 less the FAULT: a text.");
+        BottlePost x = Kit.sea(SEA);
+        KIT.due("cell(15)", x.cell(15), -2);
+        KIT.due("tides(0)", x.tides(0), -3);
+        KIT.due("write(0, 0, 0)", x.write(0, 0, 0), -6);
+        x.numbers(0, 0, 10);
+        KIT.due("seen(0)", x.seen(0), -4);
+        KIT.due("storm(0, 1)", x.storm(0, 1), -5);
+        KIT.due("write(0, 10, 0)", x.write(0, 10, 0), -7);
+        KIT.due("bottle(0, 0)", x.bottle(0, 0), -8);
+        KIT.due("throwsIt(0, 0, true)", x.throwsIt(0, 0, true), -11);
+        KIT.due("throwsIt(2, 0, true)", x.throwsIt(2, 0, true), -12);
+        for (int b = 0; b < 8; b++) {
+            x.throwsIt(0, 1, true);
+        }
+        KIT.due("throwsIt(0, 1, true)", x.throwsIt(0, 1, true), -13);
+        KIT.due("sea(0)", x.sea(0), -32);
     }
 
     private static void toldFirst() {

@@ -10,7 +10,9 @@ final class SeaBoundsTest {
         feed();
         refusedFeed();
         seaTakesTheFirst();
+        seaEndsWithin();
         seaStartsAnew();
+        seaForgetsTheFormer();
         seaCountsLines();
         seaRefused();
         faults();
@@ -156,6 +158,63 @@ final class SeaBoundsTest {
         KIT.due("sea(0) of none", x.sea(0), -32);
         KIT.due("fault(1)", x.fault(1), 0);
         KIT.due("feed", x.feed(0, 0, 0, 0, 0), 20);
+    }
+
+    private static void seaEndsWithin() {
+        KIT.says(3, "The first n bytes of THE TAPE");
+        // The text ends there, though a word or an N goes on behind it on the tape.
+        String tape = TWO + "rock 0 0;cork 1234;";
+        int[][] due = {{15, 2, 15}, {16, 0, -1}, {17, 2, 16}, {19, 2, 16}, {20, 2, 20}, {22, 2, 22}, {24, 2, 24}, {25, 0, -1},
+            {31, 2, 31}, {32, 2, 32}, {33, 3, 30}, {34, 1, 30}, {35, 1, 30}};
+        for (int[] d : due) {
+            BottlePost x = new BottlePost();
+            Kit.taped(x, tape);
+            KIT.due("sea(" + d[0] + ")", x.sea(d[0]), d[1] == 0 ? d[0] / 9 : -30 - d[1]);
+            KIT.due("fault(1) of " + d[0], x.fault(1), d[2]);
+        }
+        BottlePost x = new BottlePost();
+        Kit.taped(x, TWO + "rocky 0 0;");
+        KIT.due("sea(20), a whole word", x.sea(20), -32);
+        KIT.due("fault(1)", x.fault(1), 20);
+    }
+
+    private static void seaForgetsTheFormer() {
+        KIT.says(3, "are THE SEA, no BOTTLES, TIDE 0");
+        String lane = "sea 3 2 tides 1;shore 0 0 throws east walks 0;shore 2 0 throws south walks 0;"
+            + "shore 0 1 throws east walks 0;";
+        BottlePost x = Kit.sea(lane + "rock 2 1;current 1 0 2;moon 5 springs 5;cork 1;wind : 2;keeps : 1 = 1;");
+        KIT.due("best(0, 1, 0)", x.best(0, 1, 0), 1);
+        KIT.due("keeper(0, 2, true, 0)", x.keeper(0, 2, true, 0), 1);
+        KIT.due("wind(1, 0)", x.wind(1, 0), 2);
+        // Of rocks, currents, moon, cork and laws none is left, nor what was known by them.
+        KIT.due("sea", Kit.told(x, lane), 4);
+        KIT.due("count(13)", x.count(13), 0);
+        KIT.due("cell(5)", x.cell(5), 0);
+        KIT.due("current(1, 0)", x.current(1, 0), 0);
+        KIT.due("wind(1, 0)", x.wind(1, 0), 0);
+        KIT.due("best(0, 1, 0)", x.best(0, 1, 0), -1);
+        KIT.due("keeper(0, 2, true, 0)", x.keeper(0, 2, true, 0), -1);
+        x.throwsIt(0, -1, false);
+        x.tides(1);
+        KIT.due("bottle(0, 0)", x.bottle(0, 0), 0);
+        KIT.due("bottle(0, 1)", x.bottle(0, 1), 1);
+        KIT.due("count(9)", x.count(9), 0);
+        KIT.due("sea", Kit.told(x, lane + "current 1 0 2;current 1 1 1;"), 6);
+        KIT.due("no law keeps it", x.keeper(0, 2, true, 0), -1);
+        KIT.due("it is passed on once", x.best(0, 1, 0), 1);
+        // Law upon law: the wind of the latest sea, wherever it was asked for before.
+        for (int way = 1; way <= 4; way++) {
+            KIT.due("sea", Kit.told(x, lane + "wind : " + way + ";"), 5);
+            KIT.due("wind(1, 0) of " + way, x.wind(1, 0), way);
+        }
+        KIT.due("sea", Kit.told(x, lane + "current 1 0 2;current 1 1 1;"), 6);
+        // A fault on the way leaves as little.
+        Kit.told(x, lane + "rock 2 1;current 1 0 4;moon 5 springs 5;cork 1;wind : 3;keeps : 1 = 1;!");
+        KIT.due("best(0, 1, 0)", x.best(0, 1, 0), 1);
+        KIT.due("sea", Kit.told(x, lane), 4);
+        KIT.due("current(1, 0)", x.current(1, 0), 0);
+        KIT.due("wind(1, 0)", x.wind(1, 0), 0);
+        KIT.due("count(13)", x.count(13), 0);
     }
 
     private static void seaStartsAnew() {
@@ -333,12 +392,18 @@ final class SeaBoundsTest {
         KIT.due("wind(0, 1) at phase 0, moon 0", x.wind(0, 1), 0);
         KIT.says(0, "the direction that the law tells modulo 5 (0 to 4, as directions; x, y, tide: PHASE, moon: MOON; without it: 0)");
         String[] sums = {"0", "4", "5", "6", "999", "0 - 1", "0 - 5", "0 - 6", "1 - 999", "999 * 999 * 2", "0 - 999 * 999 * 2",
-            "moon", "tide", "x * y"};
-        int[] due = {0, 4, 0, 1, 4, 4, 0, 4, 2, 0, 0, 0, 0, 1};
+            "moon", "tide", "x * y", "2 * x + y", "x + 3 * y"};
+        int[] due = {0, 4, 0, 1, 4, 4, 0, 4, 2, 0, 0, 0, 0, 1, 3, 4};
         for (int i = 0; i < sums.length; i++) {
             KIT.due("wind(3, 999) by " + sums[i], Kit.sea(TWO + "wind : " + sums[i] + ";").wind(3, 999), due[i]);
         }
         KIT.due("wind(3, 999) by no law", Kit.sea(TWO).wind(3, 999), 0);
+        // From 0 on, x to the east and y to the south.
+        BottlePost z = Kit.sea("sea 3 2 tides 1;wind : x + 2 * y;");
+        int[] cells = {0, 1, 2, 2, 3, 4};
+        for (int k = 0; k < 6; k++) {
+            KIT.due("wind(" + k + ", 0)", z.wind(k, 0), cells[k]);
+        }
     }
 
     private static void longestText() {
@@ -566,6 +631,9 @@ final class SeaBoundsTest {
         fault("sea22 tides 1;", 3, 3);
         fault(TWO + "rock 00;", 2, 23);
         fault(TWO + "rockrock 0 0;", 2, 16);
+        fault(TWO + "rocka 0 0;", 2, 16);
+        fault(TWO + "rockz 0 0;", 2, 16);
+        fault(TWO + "zrock 0 0;", 2, 16);
         fault(TWO + "keeps:notfrom=1;", 2, 22);
         fault(TWO + "keeps:1=1or1=1and 1=1 orage=1;", 2, 38);
         // With one they are two.

@@ -335,6 +335,13 @@ final class ToComeBoundsTest {
         relay(x, 4, 5, 1, 1, 4, 5);
         relay(x, 5, 0);
         relay(x, 1, 0);
+        // The other way around, down to shore 0.
+        x = Kit.sea("sea 6 6 tides 1;shore 5 5 throws east walks 0;shore 4 4 throws east walks 0;"
+            + "shore 3 3 throws east walks 0;shore 2 2 throws east walks 0;shore 1 1 throws east walks 0;"
+            + "shore 0 0 throws east walks 0;current 1 0 3;current 2 1 3;current 3 2 3;current 4 3 3;current 5 4 3;"
+            + "keeps : 1 = 1;");
+        relay(x, 5, 0, 5, 5, 5, 4, 3, 2, 1, 0);
+        relay(x, 0, 5);
         KIT.says(0, "so that a SHORE is reached soonest; of like ones that with the fewest letters, then the first by SHORES.");
         relay(Kit.sea(STAIRS), 0, 5, 5, 1, 0, 5);
         // Kept on its way by the third: a letter to that, and one from there.
