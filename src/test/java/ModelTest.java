@@ -81,7 +81,7 @@ final class ModelTest {
             case 0:
                 return taken[k] && !chance(20) ? "" : "rock " + mark(taken, k) + ";";
             case 3:
-                return "moon " + (2 + upTo(5)) + " springs " + upTo(2) + ";";
+                return moonLine();
             case 4:
                 return "cork " + (1 + upTo(chance(3) ? 98 : 12)) + ";";
             case 5:
@@ -91,6 +91,11 @@ final class ModelTest {
             default:
                 return currentLine(place());
         }
+    }
+
+    private String moonLine() {
+        int moon = 2 + upTo(chance(4) ? 28 : 5);
+        return "moon " + moon + " springs " + upTo(chance(3) ? moon : 2) + ";";
     }
 
     private String currentLine(String where) {
@@ -133,7 +138,7 @@ final class ModelTest {
         phases = 1 + upTo(chance(4) ? 5 : 2);
         StringBuilder s = new StringBuilder("sea " + wide + " " + high + " tides " + phases + ";");
         boolean[] taken = new boolean[36];
-        for (int i = chance(8) ? upTo(7) : 2 + upTo(3); i > 0; i--) {
+        for (int i = chance(5) ? upTo(7) : 2 + upTo(3); i > 0; i--) {
             s.append(shoreLine(taken));
         }
         boolean dense = chance(2);
@@ -219,7 +224,7 @@ final class ModelTest {
                 kit.due(run + "count(" + what + ")", x.count(what), m.count(what));
             }
         }
-        if (m.count(3) > 2 && m.count(3) < 6 && chance(3)) {
+        if (m.count(3) > 2 && chance(m.count(3) < 6 ? 3 : 6)) {
             sweep(x, m, kit, "run " + seed + ": ");
         }
         for (int b = 0; b < 9; b++) {
@@ -235,7 +240,7 @@ final class ModelTest {
         int shores = m.count(3);
         for (int s = 0; s < shores; s++) {
             for (int t = 0; t < shores; t++) {
-                for (int what : new int[] {0, 1, 10, 11, 12, 13, 14}) {
+                for (int what : new int[] {0, 1, 10, 11, 12, 13, 14, 15}) {
                     kit.due(run + "relay " + what, x.relay(s, t, what), m.relay(s, t, what));
                 }
                 for (int by = 0; by < shores; by++) {
