@@ -76,7 +76,6 @@ public final class BottlePost {
     private final Reader reader = new Reader();
     private final Drift drift = new Drift();
     private final Chart chart = drift.chart;
-    private final Chart spare = new Chart();
     private final Waters waters = new Waters();
     private final Waters trial = new Waters();
     private final Past past = new Past();
@@ -127,10 +126,10 @@ public final class BottlePost {
             return CANNOT_BE;
         }
         taped = 0;
-        if (!reader.reads(tape, n, spare)) {
+        if (!reader.reads(tape, n)) {
             return FAULTY - reader.kind;
         }
-        chart.takeFrom(spare);
+        chart.takeFrom(reader.chart);
         waters.clear();
         becomeOther();
         return chart.lines;
@@ -266,7 +265,7 @@ public final class BottlePost {
         }
         past.draft(waters);
         past.commit();
-        waters.bottles[b].state = LIFTED;
+        waters.raise(b);
         return waters.bottles[b].cell;
     }
 
@@ -1600,11 +1599,12 @@ public final class BottlePost {
         private static final int ONE_TOO_MANY = 4;
         private static final String SIGNS = ";:+-*()[]=<>";
 
+        // What is read goes here, so that a text with a fault leaves the sea that is.
+        final Chart chart = new Chart();
         int kind;
         int place = NONE;
         private byte[] text = new byte[0];
         private int length;
-        private Chart chart;
         private int codes;
         // The token that comes next: a sign's kind is the sign itself.
         private int token;
@@ -1613,10 +1613,9 @@ public final class BottlePost {
         private int value;
 
         /** Whether the first n bytes are a sea; the chart is of no use if they aren't. */
-        boolean reads(byte[] bytes, int n, Chart into) {
+        boolean reads(byte[] bytes, int n) {
             text = bytes;
             length = Math.min(n, bytes.length);
-            chart = into;
             kind = 0;
             place = NONE;
             behind = 0;
