@@ -56,6 +56,11 @@ final class LanguageTest {
             boolean hidden = Modifier.isPrivate(m.getModifiers()) && !names.contains(m.getName());
             holds(m.getName() + " is public, or private by another name", Modifier.isPublic(m.getModifiers()) || hidden);
         }
+        for (Class<?> inner : BottlePost.class.getDeclaredClasses()) {
+            for (Method m : inner.getDeclaredMethods()) {
+                holds(m + " has a name of its own", !Modifier.isPrivate(m.getModifiers()) || !names.contains(m.getName()));
+            }
+        }
         for (Field f : BottlePost.class.getDeclaredFields()) {
             holds(f.getName() + " is private", Modifier.isPrivate(f.getModifiers()) || f.getName().equals("NONE"));
         }
